@@ -152,13 +152,13 @@ public final class OnceStore {
 
     public int cell(int what, int which, int bit) throws IndexOutOfBoundsException {
         if (what == 0 && isBelow(which, WORDS) && isBelow(bit, WORD_CELLS)) {
-            return wordRow[which] >>> bit & 1;
+            return (wordRow[which] >>> bit) & 1;
         }
         if (what == 1 && isBelow(which, WORDS) && isBelow(bit, TAG_CELLS)) {
-            return tagRow[which] >>> bit & 1;
+            return (tagRow[which] >>> bit) & 1;
         }
         if (what == 2 && isBelow(which, LINES) && isBelow(bit, LINE_CELLS)) {
-            return lineRow[which] >>> bit & 1;
+            return (lineRow[which] >>> bit) & 1;
         }
         throw new IndexOutOfBoundsException();
     }
@@ -234,14 +234,14 @@ public final class OnceStore {
     private static int meaningOfWord(int cells) {
         int value = 0;
         for (int group = 0; group < GROUPS; group++) {
-            value |= meaningOfGroup(cells >>> 3 * group & GROUP_CELLS) << 2 * group;
+            value |= meaningOfGroup((cells >>> 3 * group) & GROUP_CELLS) << 2 * group;
         }
         return value;
     }
 
     /** Each two bits have just two patterns, one the other's complement; NONE if neither fits. */
     private static int patternOfGroup(int cells, int wanted) {
-        int smaller = wanted == 0 ? 0 : 1 << wanted - 1;
+        int smaller = wanted == 0 ? 0 : 1 << (wanted - 1);
         if ((cells & ~smaller) == 0) {
             return smaller;
         }
@@ -253,7 +253,8 @@ public final class OnceStore {
     private static int patternOfWord(int cells, int value) {
         int pattern = 0;
         for (int group = 0; group < GROUPS; group++) {
-            int part = patternOfGroup(cells >>> 3 * group & GROUP_CELLS, value >>> 2 * group & 3);
+            int now = (cells >>> 3 * group) & GROUP_CELLS;
+            int part = patternOfGroup(now, (value >>> 2 * group) & 3);
             if (part == NONE) {
                 return NONE;
             }
@@ -359,7 +360,7 @@ public final class OnceStore {
         return count;
     }
 
-    /** The present word, or the lowest fresh one from a given one on, or NONE if that is missing. */
+    /** The present word, or the lowest fresh one from a given one on, or NONE if none is left. */
     private int wordThatTakes(int key, int value, int freshFrom) {
         int present = presentWord(key);
         return staysInPlace(present, value) ? present : lowestFreshWord(freshFrom);
@@ -392,7 +393,7 @@ public final class OnceStore {
             if (isFresh(word)) {
                 freshFrom = word + 1;
             }
-            plannedLines[i] = stagedValues[i] | key << KEY_SHIFT | word << WORD_SHIFT | LINE_USED;
+            plannedLines[i] = lineFor(key, stagedValues[i], word);
         }
         return true;
     }
@@ -412,11 +413,16 @@ public final class OnceStore {
         int first = note * NOTE_LINES;
         for (int i = 0; i < BATCH_LIMIT; i++) {
             int line = lineRow[first + i];
-            if (namesWord(line) && !writePut(keyOfLine(line), valueOfLine(line), wordOfLine(line))) {
+            if (namesWord(line)
+                    && !writePut(keyOfLine(line), valueOfLine(line), wordOfLine(line))) {
                 return false;
             }
         }
         return write(lineRow, first + STATE_LINE, DONE);
+    }
+
+    private static int lineFor(int key, int value, int word) {
+        return value | (key << KEY_SHIFT) | (word << WORD_SHIFT) | LINE_USED;
     }
 
     private static boolean namesWord(int line) {
@@ -424,15 +430,15 @@ public final class OnceStore {
     }
 
     private static int valueOfLine(int line) {
-        return line & VALUES - 1;
+        return line & (VALUES - 1);
     }
 
     private static int keyOfLine(int line) {
-        return line >>> KEY_SHIFT & KEYS - 1;
+        return (line >>> KEY_SHIFT) & (KEYS - 1);
     }
 
     private static int wordOfLine(int line) {
-        return line >>> WORD_SHIFT & 255;
+        return (line >>> WORD_SHIFT) & 255;
     }
 
     /** The word before its tag: a word that bears a key's tag always stands for a value put. */

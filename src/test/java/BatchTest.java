@@ -85,7 +85,8 @@ public final class BatchTest {
         run.call("failAfter", 12).due(4 + 1 + 2 + 2 + 1 + 1 + 1, "commit").due(true, "isOn");
         run.dueCells(line(4, 9, 2), 2, 0).dueCells(line(1, 1, 3), 2, 1).dueCells(line(2, 3, 1), 2, 2);
         run.dueCells(line(5, 0, 4), 2, 3).due(2, "words", 1).due(1, "words", 2).due(3, "get", 2);
-        run.call("failAfter", -1).call("begin").call("stage", 2, 3).due(3, "commit").dueCells(line(2, 3, 1), 2, 9).dueCells(3, 2, 17);
+        run.call("failAfter", -1).call("begin").call("stage", 2, 3).due(3, "commit");
+        run.dueCells(line(2, 3, 1), 2, 9).dueCells(3, 2, 17);
     }
 
     private static void commitOfNothing() {

@@ -87,9 +87,13 @@ public final class ModelTest {
             case 2: return new Call("left", random.nextInt(odd(random) ? 6 : 4) - (odd(random) ? 1 : 0));
             case 3: return new Call("words", key(random, keys));
             case 4: return new Call("history", key(random, keys), random.nextInt(odd(random) ? 40 : 3) - 1);
-            case 5: return new Call("cell", random.nextInt(odd(random) ? 4 : 3), random.nextInt(30), random.nextInt(25));
-            default: return new Call("cell", 2, random.nextInt(odd(random) ? 380 : 40), random.nextInt(34) - 1);
+            case 5: return cellCall(random, random.nextInt(odd(random) ? 4 : 3), 30, 25);
+            default: return cellCall(random, 2, odd(random) ? 380 : 40, 34);
         }
+    }
+
+    private static Call cellCall(Random random, int what, int rows, int bits) {
+        return new Call("cell", what, random.nextInt(rows), random.nextInt(bits) - (odd(random) ? 1 : 0));
     }
 
     private static boolean odd(Random random) {
