@@ -5,7 +5,6 @@ import java.util.Random;
 /** All promises at once: long runs of mixed calls must be answered as the plain model answers them. */
 public final class ModelTest {
     private static final int RUNS = 1500;
-    private static final int CALLS = 512;
     private static final int TOLD = 12;
 
     public static void main(String[] args) {
@@ -22,11 +21,11 @@ public final class ModelTest {
         Deque<String> told = new ArrayDeque<>();
         int keys = 1 + random.nextInt(seed % 3 == 0 ? 64 : 6);
         int style = random.nextInt(4);
-        for (int i = 0; i < CALLS; i++) {
+        for (int i = 0; i < Run.CALLS; i++) {
             Call call = choose(random, keys, style);
-            String got = Calls.answer(store, call.name, call.args);
-            String want = Calls.answer(model, call.name, call.args);
-            told.addLast(Calls.text(call.name, call.args) + " -> " + got);
+            String got = call.on(store);
+            String want = call.on(model);
+            told.addLast(call.text() + " -> " + got);
             if (told.size() > TOLD) {
                 told.removeFirst();
             }
@@ -34,16 +33,6 @@ public final class ModelTest {
                 Run.report("seed " + seed + ", call " + i + ", due is " + want + ": " + told);
                 return;
             }
-        }
-    }
-
-    private static final class Call {
-        final String name;
-        final int[] args;
-
-        Call(String name, int... args) {
-            this.name = name;
-            this.args = args;
         }
     }
 
