@@ -15,7 +15,10 @@ public final class OnceStore {
     private static final int TAG_CELLS = 8;
     private static final int TAG_USED = 128;
     private static final int GROUPS = 8;
-    private static final int GROUP_CELLS = 7;
+    private static final int GROUP_CELLS = 3;
+    private static final int GROUP_BITS = 2;
+    private static final int ALL_GROUP_CELLS = 7;
+    private static final int ALL_GROUP_BITS = 3;
 
     private static final int NOTES = 40;
     private static final int NOTE_LINES = 9;
@@ -25,6 +28,7 @@ public final class OnceStore {
 
     private static final int KEY_SHIFT = 16;
     private static final int WORD_SHIFT = 22;
+    private static final int ALL_WORD_BITS = 255;
     private static final int LINE_USED = 1 << 30;
 
     private static final int STATE_LINE = 8;
@@ -227,14 +231,16 @@ public final class OnceStore {
     }
 
     private static int meaningOfGroup(int cells) {
-        int telling = Integer.bitCount(cells) > 1 ? cells ^ GROUP_CELLS : cells;
+        int telling = Integer.bitCount(cells) > 1 ? cells ^ ALL_GROUP_CELLS : cells;
+        // The third cell stands for 3, though its weight in the group is 4.
         return telling == 4 ? 3 : telling;
     }
 
     private static int meaningOfWord(int cells) {
         int value = 0;
         for (int group = 0; group < GROUPS; group++) {
-            value |= meaningOfGroup((cells >>> 3 * group) & GROUP_CELLS) << 2 * group;
+            int now = (cells >>> GROUP_CELLS * group) & ALL_GROUP_CELLS;
+            value |= meaningOfGroup(now) << GROUP_BITS * group;
         }
         return value;
     }
@@ -245,20 +251,21 @@ public final class OnceStore {
         if ((cells & ~smaller) == 0) {
             return smaller;
         }
-        int larger = smaller ^ GROUP_CELLS;
+        int larger = smaller ^ ALL_GROUP_CELLS;
         return (cells & ~larger) == 0 ? larger : NONE;
     }
 
-    /** What a word with these cells set is written as to stand for the value, or NONE. */
+    /** NONE if the word does not come to the value: one group that does not fit is enough. */
     private static int patternOfWord(int cells, int value) {
         int pattern = 0;
         for (int group = 0; group < GROUPS; group++) {
-            int now = (cells >>> 3 * group) & GROUP_CELLS;
-            int part = patternOfGroup(now, (value >>> 2 * group) & 3);
+            int now = (cells >>> GROUP_CELLS * group) & ALL_GROUP_CELLS;
+            int wanted = (value >>> GROUP_BITS * group) & ALL_GROUP_BITS;
+            int part = patternOfGroup(now, wanted);
             if (part == NONE) {
                 return NONE;
             }
-            pattern |= part << 3 * group;
+            pattern |= part << GROUP_CELLS * group;
         }
         return pattern;
     }
@@ -360,7 +367,7 @@ public final class OnceStore {
         return count;
     }
 
-    /** The present word, or the lowest fresh one from a given one on, or NONE if none is left. */
+    /** Put and commit choose alike, but a commit passes over fresh words that it has named. */
     private int wordThatTakes(int key, int value, int freshFrom) {
         int present = presentWord(key);
         return staysInPlace(present, value) ? present : lowestFreshWord(freshFrom);
@@ -438,7 +445,7 @@ public final class OnceStore {
     }
 
     private static int wordOfLine(int line) {
-        return (line >>> WORD_SHIFT) & 255;
+        return (line >>> WORD_SHIFT) & ALL_WORD_BITS;
     }
 
     /** The word before its tag: a word that bears a key's tag always stands for a value put. */
@@ -447,7 +454,7 @@ public final class OnceStore {
                 && write(tagRow, word, tagOf(key));
     }
 
-    /** One write, or none if it would set nothing; false if power failed instead of it. */
+    /** False if power failed instead of the write, since the call then ends where it stands. */
     private boolean write(int[] row, int at, int cells) {
         int added = cells & ~row[at];
         if (added == 0) {
